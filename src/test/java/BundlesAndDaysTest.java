@@ -325,5 +325,11 @@ public final class BundlesAndDaysTest {
         x.pass(1);
         DUE.is("handed over on day 6", x.bundle(0, 2), 1);
         DUE.is("arrives", x.pass(1), 1);
+        MovedStalls y = Due.with("05;03", "3>5");
+        y.stall(2, 1);
+        y.pass(3);
+        DUE.is("carrier 1 keeps it, too", y.bundle(0, 2), 1);
+        y.pass(1);
+        DUE.is("handed over on day 4", y.bundle(0, 2), 0);
     }
 }

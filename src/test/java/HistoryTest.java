@@ -8,8 +8,10 @@ public final class HistoryTest {
         promise25FourStates();
         promise25NoChanges();
         promise25ThePadAndTheSnapshotStay();
+        promise25WhatComesAnewIsNew();
         promise26Save();
         promise27Restore();
+        promise27RestoreOfStallsAndDays();
         promise27RestoreIsAChange();
         promise27RestoreKeepsPadAndHistory();
         DUE.end();
@@ -148,6 +150,67 @@ public final class HistoryTest {
         DUE.is("LOAD", x.count(13), 3);
         x.restore();
         DUE.is("the snapshot stays", x.count(13), 5);
+    }
+
+    private static void promise25WhatComesAnewIsNew() {
+        MovedStalls x = new MovedStalls();
+        Due.type(x, "010*9");
+        x.tours();
+        x.post(0, 1);
+        x.pass(4);
+        x.ill(0, 9);
+        DUE.is("changes", x.carrier(0, 5), 1);
+        DUE.is("broken", x.carrier(0, 6), 1);
+        DUE.is("changes of the bundle", x.bundle(0, 7), 1);
+        DUE.is("broken seal", x.bundle(0, 6), 1);
+        for (int i = 0; i < 4; i++) {
+            x.undo();
+        }
+        Due.type(x, "5");
+        DUE.is("another carrier", x.tours(), 1);
+        int[] want = {1, 0, 0, 0, 0, 0, 0};
+        for (int what = 0; what < want.length; what++) {
+            DUE.is("another carrier: carrier(0, " + what + ")", x.carrier(0, what), want[what]);
+        }
+        DUE.is("another tour", x.where(0, 2), 5);
+        MovedStalls y = Due.with("01*9", "0>1");
+        y.pass(3);
+        y.forget(0);
+        y.post(2, 3);
+        int[] parcel = {3, 2, -4, -4, -4, -4, 0, 0, 3};
+        for (int what = 0; what < parcel.length; what++) {
+            DUE.is("another bundle: bundle(0, " + what + ")", y.bundle(0, what), parcel[what]);
+        }
+    }
+
+    private static void promise27RestoreOfStallsAndDays() {
+        MovedStalls x = Due.withTours(TWO);
+        x.pass(3);
+        for (int weekday = 0; weekday <= 6; weekday++) {
+            x.stall(weekday, weekday % 3 + 1);
+        }
+        x.post(0, 2);
+        x.save();
+        x.forget(0);
+        for (int weekday = 0; weekday <= 6; weekday++) {
+            x.stall(weekday, 6);
+        }
+        x.pass(4);
+        x.post(1, 2);
+        x.restore();
+        DUE.is("the day of the bundle", x.bundle(0, 8), 3);
+        DUE.is("where it lies", x.bundle(0, 1), 0);
+        for (int weekday = 0; weekday <= 6; weekday++) {
+            DUE.is("the stall on weekday " + weekday, x.stall(weekday, 0), weekday % 3 + 1);
+            x.undo();
+        }
+        DUE.is("undo() of the restore", x.undo(), 2);
+        DUE.is("the day of the other bundle", x.bundle(0, 8), 7);
+        DUE.is("where the other bundle lies", x.bundle(0, 1), 1);
+        for (int weekday = 0; weekday <= 6; weekday++) {
+            DUE.is("nowhere on weekday " + weekday, x.stall(weekday, 0), 6);
+            x.undo();
+        }
     }
 
     private static void promise26Save() {
