@@ -1,7 +1,9 @@
 /** Runs of calls that a fixed formula chooses: each answer of MovedStalls is compared with Model's. */
 public final class ModelTest {
     private static final int RUNS = 600;
+    // Behind its 512th call nothing is promised of an object: no step may go beyond it.
     private static final int CALLS = 512;
+    private static final int LONGEST_STEP = 52;
     private static final Due DUE = new Due("ModelTest");
 
     private long seed;
@@ -31,7 +33,7 @@ public final class ModelTest {
             int town = below(7);
             due("stall(" + weekday + ", " + town + ")", x.stall(weekday, town), m.stall(weekday, town));
         }
-        while (calls < CALLS && DUE.wrongSoFar() == 0) {
+        while (calls + LONGEST_STEP <= CALLS && DUE.wrongSoFar() == 0) {
             step();
         }
     }
