@@ -13,12 +13,16 @@ public final class ChangesEdgesTest {
         atMost4States();
         theOldestOneIsDropped();
         whatIsNoChange();
+        arrivedOnesAreAmongThe8();
         invalidArgumentBeforeLimitReached();
         invalidArgumentBeforeNotFound();
         notPossibleBeforeLimitReached();
         limitReachedBeforeNotFound();
         errorsChangeNothing();
         promise25AsItWasBeforeIt();
+        promise25And27OnEachWeekday();
+        promise25And27OfOtherBundles();
+        promise27WhatComesThenIsNew();
         promise25ButThePad();
         promise25ButTheSnapshot();
         promise25AnEmptyHistory();
@@ -196,6 +200,22 @@ public final class ChangesEdgesTest {
         DUE.is("undo() is none", x.count(16), states - 1);
     }
 
+    /** "There are at most 8 bundles": those that have arrived among them. */
+    private static void arrivedOnesAreAmongThe8() {
+        Supplier<MovedStalls> state = () -> {
+            MovedStalls x = Due.with("01", "0>1,0>1,0>1,0>1,5>4,5>4,5>4,5>4");
+            x.pass(3);
+            Due.type(x, "0>1");
+            return x;
+        };
+        DUE.is("three of them have arrived", state.get().count(7), 3);
+        DUE.refused("a ninth one by post()", state, x -> x.post(0, 1), -3);
+        DUE.refused("a ninth one by letters()", state, MovedStalls::letters, -3);
+        MovedStalls y = state.get();
+        y.forget(0);
+        DUE.is("one forgotten", y.letters(), 8);
+    }
+
     private static MovedStalls eightBundles() {
         MovedStalls x = new MovedStalls();
         for (int b = 0; b < 8; b++) {
@@ -344,6 +364,72 @@ public final class ChangesEdgesTest {
             all.append(x.count(what)).append(' ');
         }
         return all.toString();
+    }
+
+    private static void promise25And27OnEachWeekday() {
+        for (int weekday = 0; weekday <= 6; weekday++) {
+            MovedStalls x = new MovedStalls();
+            x.stall(weekday, 2);
+            x.save();
+            x.stall(weekday, 3);
+            x.undo();
+            DUE.is("undone on weekday " + weekday, x.stall(weekday, 4), 2);
+            x.restore();
+            DUE.is("restored on weekday " + weekday, x.stall(weekday, 5), 2);
+            x.undo();
+            x.undo();
+            DUE.is("restore() undone on weekday " + weekday, x.stall(weekday, 5), 4);
+        }
+    }
+
+    private static void promise25And27OfOtherBundles() {
+        MovedStalls x = Due.withTours("01*9;10*9");
+        x.post(0, 1);
+        x.post(1, 5);
+        x.pass(2);
+        String first = Due.looks(x);
+        x.save();
+        x.forget(0);
+        x.forget(0);
+        x.post(2, 3);
+        String second = Due.looks(x);
+        DUE.is("restore()", x.restore(), 2);
+        DUE.is("the first ones", Due.looks(x), first);
+        x.undo();
+        DUE.is("the other one", Due.looks(x), second);
+        x.undo();
+        x.undo();
+        x.undo();
+        DUE.is("the first ones, undone", Due.looks(x), first);
+    }
+
+    /** Carriers and bundles that are gone by restore() leave nothing to those that come then. */
+    private static void promise27WhatComesThenIsNew() {
+        MovedStalls x = new MovedStalls();
+        x.save();
+        Due.type(x, "01*9");
+        x.tours();
+        x.post(0, 1);
+        x.pass(2);
+        x.ill(0, 9);
+        int[] was = {2, 9, 1, 0, 12, 1, 1};
+        told(x, "before restore()", was, new int[] {1, -4, 0, -4, 3, 1010, 1, 1, 0});
+        DUE.is("restore()", x.restore(), 0);
+        DUE.is("no carrier", x.carrier(0, 0), -1);
+        DUE.is("no bundle", x.bundle(0, 0), -1);
+        Due.type(x, "5");
+        x.tours();
+        x.post(2, 3);
+        told(x, "what is new", new int[] {1, 0, 0, 0, 0, 0, 0}, new int[] {3, 2, -4, -4, -4, -4, 0, 0, 0});
+    }
+
+    private static void told(MovedStalls x, String when, int[] carrier, int[] bundle) {
+        for (int what = 0; what < carrier.length; what++) {
+            DUE.is(when + ": carrier(0, " + what + ")", x.carrier(0, what), carrier[what]);
+        }
+        for (int what = 0; what < bundle.length; what++) {
+            DUE.is(when + ": bundle(0, " + what + ")", x.bundle(0, what), bundle[what]);
+        }
     }
 
     private static void promise25ButThePad() {

@@ -179,12 +179,7 @@ public final class DaysEdgesTest {
         DUE.is("full", x.carrier(0, 3), 1);
         DUE.is("post to a full one", x.post(1, 0), 4);
         DUE.is("ifPosted to a full one", x.ifPosted(1, 0, 0), 4);
-        MovedStalls y = Due.with(MEET_ON_ODD_DAYS, "3>5,5>4");
-        Due.type(y, "554");
-        y.tours();
-        y.load(1);
-        y.pass(1);
-        arrival("over a full one's hands", y, 0, 4);
+        arrival("that for which there was no room", x, 1, 5);
     }
 
     /** "nor does anything but tours, the stall and days on which carriers are ill" */
@@ -463,6 +458,12 @@ public final class DaysEdgesTest {
             DUE.is("the lot on day " + day, x.count(14), lots[day]);
             x.pass(1);
         }
+        MovedStalls y = Due.with(MEET_ON_ODD_DAYS, "3>5");
+        y.rough(0, 9);
+        y.pass(2);
+        DUE.is("broken", y.bundle(0, 6), 1);
+        y.pass(1);
+        DUE.is("a lot for a broken seal, too", y.count(14), 9027);
     }
 
     /** "x (0 to 9999, 1 at first) becomes (421 * x + 1663) modulo 10000" */

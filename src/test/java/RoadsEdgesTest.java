@@ -1,3 +1,5 @@
+import java.util.Arrays;
+
 /**
  * The terms "Towns, days, the stall", "Carriers" and "Bundles" of the document: a test for each
  * sentence that names an edge.
@@ -25,6 +27,8 @@ public final class RoadsEdgesTest {
         whoIsIllArrivesNowhere();
         whoIsIllHandsNothingOver();
         whoIsIllGetsNothing();
+        whoIsIllIsNotNowhereWithTheStall();
+        theStallIsNotThere();
         whoIsIllMeetsNobody();
         onTheDayItself();
         roughnessAndTheLot();
@@ -229,28 +233,61 @@ public final class RoadsEdgesTest {
         DUE.is("arrives on day 5", x.pass(1), 1);
     }
 
-    private static void whoIsIllHandsNothingOver() {
-        MovedStalls x = Due.with(MEET_ON_ODD_DAYS, "3>5");
+    /** A bundle that one of two carriers took on day 2: on day 3 it could be handed over. */
+    private static MovedStalls taken(int giver) {
+        MovedStalls x = Due.with(giver == 0 ? MEET_ON_ODD_DAYS : "50;30", "3>5");
         x.pass(2);
-        x.ill(0, 1);
-        DUE.is("the giver is ill on day 3: arrival", x.arrival(0, 0), 6);
-        DUE.is("the giver is ill on day 3: told forward", x.arrival(0, 1), 6);
+        DUE.is("taken by carrier " + giver, x.bundle(0, 2), giver);
+        return x;
+    }
+
+    private static void handedOverOnDay5(String why, MovedStalls x, int giver) {
+        String told = why + ", from " + giver;
+        DUE.is(told + ": arrival", x.arrival(0, 0), 6);
+        DUE.is(told + ": told forward", x.arrival(0, 1), 6);
+        for (int day = 3; day <= 4; day++) {
+            x.pass(1);
+            DUE.is(told + ": day " + day, x.bundle(0, 2), giver);
+        }
         x.pass(1);
-        DUE.is("the giver is ill on day 3", x.bundle(0, 2), 0);
-        x.pass(2);
-        DUE.is("handed over on day 5", x.bundle(0, 2), 1);
+        DUE.is(told + ": day 5", x.bundle(0, 2), 1 - giver);
+        DUE.is(told + ": day 6", x.pass(1), 1);
+    }
+
+    private static void whoIsIllHandsNothingOver() {
+        for (int giver = 0; giver <= 1; giver++) {
+            MovedStalls x = taken(giver);
+            x.ill(giver, 1);
+            handedOverOnDay5("the giver is ill", x, giver);
+        }
     }
 
     private static void whoIsIllGetsNothing() {
-        MovedStalls x = Due.with(MEET_ON_ODD_DAYS, "3>5");
-        x.pass(2);
-        x.ill(1, 1);
-        DUE.is("the getter is ill on day 3: arrival", x.arrival(0, 0), 6);
-        DUE.is("the getter is ill on day 3: told forward", x.arrival(0, 1), 6);
-        x.pass(1);
-        DUE.is("the getter is ill on day 3", x.bundle(0, 2), 0);
-        x.pass(2);
-        DUE.is("handed over on day 5", x.bundle(0, 2), 1);
+        for (int giver = 0; giver <= 1; giver++) {
+            MovedStalls x = taken(giver);
+            x.ill(1 - giver, 1);
+            handedOverOnDay5("the getter is ill", x, giver);
+        }
+    }
+
+    private static void whoIsIllIsNotNowhereWithTheStall() {
+        for (int giver = 0; giver <= 1; giver++) {
+            MovedStalls x = taken(giver);
+            x.stall(3, NOWHERE);
+            x.ill(0, 1);
+            x.ill(1, 1);
+            handedOverOnDay5("both are ill, and the stall is nowhere", x, giver);
+        }
+    }
+
+    private static void theStallIsNotThere() {
+        for (int giver = 0; giver <= 1; giver++) {
+            for (int town = 1; town <= NOWHERE; town++) {
+                MovedStalls x = taken(giver);
+                x.stall(3, town);
+                handedOverOnDay5("the stall is in " + town, x, giver);
+            }
+        }
     }
 
     private static void whoIsIllMeetsNobody() {
@@ -386,8 +423,8 @@ public final class RoadsEdgesTest {
             DUE.is("forget(" + gone + ")", x.forget(gone), 7);
             for (int b = 0; b < 7; b++) {
                 int was = b < gone ? b : b + 1;
-                DUE.is("behind forget(" + gone + ") bundle " + b, java.util.Arrays.toString(allOf(x, b)),
-                    java.util.Arrays.toString(before[was]));
+                DUE.is("behind forget(" + gone + ") bundle " + b, Arrays.toString(allOf(x, b)),
+                    Arrays.toString(before[was]));
             }
             x.post(4, 3);
             DUE.is("a new one is the last", x.bundle(7, 1), 4);
