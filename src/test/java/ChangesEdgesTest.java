@@ -23,6 +23,8 @@ public final class ChangesEdgesTest {
         promise25And27OnEachWeekday();
         promise25And27OfOtherBundles();
         promise27WhatComesThenIsNew();
+        promise25And27WhoIsGoneDoesNothing();
+        promise25And27WhatIsGoneIsWithNobody();
         promise25ButThePad();
         promise25ButTheSnapshot();
         promise25AnEmptyHistory();
@@ -421,6 +423,67 @@ public final class ChangesEdgesTest {
         x.tours();
         x.post(2, 3);
         told(x, "what is new", new int[] {1, 0, 0, 0, 0, 0, 0}, new int[] {3, 2, -4, -4, -4, -4, 0, 0, 0});
+    }
+
+    /** Carriers that are gone by undo() or restore() take nothing, bring nothing, and meet nobody. */
+    private static void promise25And27WhoIsGoneDoesNothing() {
+        String[] stay = {"", "3", "3;3", "3;3;3"};
+        for (int number = 0; number <= 3; number++) {
+            for (int back = 0; back <= 1; back++) {
+                MovedStalls x = Due.withTours(stay[number]);
+                x.save();
+                Due.type(x, "30;50;03;50".substring(0, 11 - 3 * number));
+                x.tours();
+                DUE.is("while they are here: post(3, 0)", x.post(3, 0), number <= 1 ? 2 : 3);
+                goBack(x, back);
+                whoIsGoneDoesNothing((back == 0 ? "undo(), " : "restore(), ") + number + " stay", x, number);
+            }
+        }
+    }
+
+    private static void goBack(MovedStalls x, int back) {
+        if (back == 0) {
+            x.undo();
+            x.undo();
+        } else {
+            x.restore();
+        }
+    }
+
+    private static void whoIsGoneDoesNothing(String when, MovedStalls x, int number) {
+        DUE.is(when + ": carriers", x.count(2), number);
+        DUE.is(when + ": meeting()", x.meeting(0, number, false), -1);
+        DUE.is(when + ": post(3, 0)", x.post(3, 0), -4);
+        DUE.is(when + ": post(3, 5)", x.post(3, 5), -4);
+        for (int b = 0; b <= 1; b++) {
+            DUE.is(when + ": arrival(" + b + ", 0)", x.arrival(b, 0), -4);
+            DUE.is(when + ": arrival(" + b + ", 1)", x.arrival(b, 1), -4);
+        }
+        DUE.is(when + ": ifPosted()", x.ifPosted(3, 0, 1), -4);
+        DUE.is(when + ": bestDay()", x.bestDay(3, 0), -4);
+        DUE.is(when + ": ifPassed()", x.ifPassed(30, 1), 0);
+        DUE.is(when + ": pass()", x.pass(30), 0);
+        DUE.is(when + ": it lies", x.count(5), 2);
+    }
+
+    private static void promise25And27WhatIsGoneIsWithNobody() {
+        for (int back = 0; back <= 1; back++) {
+            MovedStalls x = Due.withTours("01*9");
+            x.save();
+            Due.type(x, "0>1,0>1,0>1");
+            x.letters();
+            x.pass(2);
+            DUE.is("while they are here: full", x.carrier(0, 3), 1);
+            goBack(x, back);
+            for (int what = 4; what <= 12; what++) {
+                DUE.is("gone: count(" + what + ")", x.count(what), 0);
+            }
+            DUE.is("gone: carrier(0, 2)", x.carrier(0, 2), 0);
+            DUE.is("gone: full", x.carrier(0, 3), 0);
+            DUE.is("gone: lateness()", x.lateness(), 0.0);
+            DUE.is("gone: ifPassed()", x.ifPassed(30, 0), 0);
+            DUE.is("gone: pass()", x.pass(30), 0);
+        }
     }
 
     private static void told(MovedStalls x, String when, int[] carrier, int[] bundle) {

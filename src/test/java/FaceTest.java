@@ -27,9 +27,12 @@ public final class FaceTest {
         for (Class<?> inner : MovedStalls.class.getDeclaredClasses()) {
             due.is(inner.getName() + " is static", Modifier.isStatic(inner.getModifiers()) ? 1 : 0, 1);
             due.is(inner.getName() + " is not public", Modifier.isPublic(inner.getModifiers()) ? 1 : 0, 0);
+            due.is(inner.getName() + " is not protected", Modifier.isProtected(inner.getModifiers()) ? 1 : 0, 0);
             checkStaticFields(due, inner);
         }
         checkStaticFields(due, MovedStalls.class);
+        due.is("private methods with a public one's name", privateOnesWithAPublicName().toString(), "[]");
+        due.is("what is declared to be thrown", declaredToBeThrown(), "");
         due.end();
     }
 
@@ -57,11 +60,32 @@ public final class FaceTest {
         TreeSet<String> all = new TreeSet<String>();
         for (Field one : MovedStalls.class.getDeclaredFields()) {
             if (!Modifier.isPrivate(one.getModifiers())) {
-                all.add((Modifier.toString(one.getModifiers()).equals("public static final") ? "" : "not constant: ")
-                    + one.getName());
+                boolean constant = Modifier.toString(one.getModifiers()).equals("public static final");
+                all.add((constant && one.getType() == int.class ? "" : "not constant: ") + one.getName());
             }
         }
         return all;
+    }
+
+    /** LANGUAGE.md, rule 1 */
+    private static TreeSet<String> privateOnesWithAPublicName() {
+        TreeSet<String> open = new TreeSet<String>();
+        TreeSet<String> hidden = new TreeSet<String>();
+        for (Method one : MovedStalls.class.getDeclaredMethods()) {
+            (Modifier.isPrivate(one.getModifiers()) ? hidden : open).add(one.getName());
+        }
+        hidden.retainAll(open);
+        return hidden;
+    }
+
+    private static String declaredToBeThrown() {
+        StringBuilder all = new StringBuilder();
+        for (Method one : MovedStalls.class.getDeclaredMethods()) {
+            for (Class<?> thrown : one.getExceptionTypes()) {
+                all.append(one.getName()).append(": ").append(thrown.getName()).append(' ');
+            }
+        }
+        return all.toString();
     }
 
     /** LANGUAGE.md, rule 5: no static state. */

@@ -41,6 +41,7 @@ public final class LooksEdgesTest {
         promise24InThem();
         promise24SealsThatWouldBreak();
         promise24AsPassWouldTell();
+        promise21To24With8Bundles();
         promise21To24ChangeNothing();
         DUE.end();
     }
@@ -475,6 +476,9 @@ public final class LooksEdgesTest {
         for (int i = 0; i < 4; i++) {
             DUE.is("most of " + letters[i], withoutStall(tours, letters[i]).bestTown(1), want[i]);
         }
+        String seven = "0>1,2>3,0>1,2>3,0>1,2>3,4>5";
+        DUE.is("three to three", withoutStall(tours, seven).bestTown(1), 4);
+        DUE.is("the eighth one tells", withoutStall(tours, seven + ",2>3").bestTown(1), 5);
     }
 
     /** "of several that with the least sum of these arrivals" */
@@ -560,6 +564,23 @@ public final class LooksEdgesTest {
             DUE.is(days + " days: arrivals", x.pass(days), arrivals);
             DUE.is(days + " days: changes", x.count(12), changes);
             DUE.is(days + " days: broken", x.count(8), broken);
+        }
+    }
+
+    /** None of them tells of LIMIT_REACHED: what would be is told with 8 bundles, and with full carriers, too. */
+    private static void promise21To24With8Bundles() {
+        MovedStalls x = Due.with(MEET_ON_ODD_DAYS, "3>5,".repeat(7) + "3>5");
+        x.load(1);
+        // For each day: ifPosted today, ifPosted in 2 days, bestDay, changes of hands in 2 days.
+        int[][] want = {{4, 6, 1, 1}, {4, 6, 0, 2}, {6, 8, 1, 2}};
+        for (int day = 0; day <= 2; day++) {
+            DUE.is("day " + day + ": a ninth one", x.post(3, 5), -3);
+            DUE.is("day " + day + ": ifPosted(3, 5, 0)", x.ifPosted(3, 5, 0), want[day][0]);
+            DUE.is("day " + day + ": ifPosted(3, 5, 2)", x.ifPosted(3, 5, 2), want[day][1]);
+            DUE.is("day " + day + ": bestDay(3, 5)", x.bestDay(3, 5), want[day][2]);
+            DUE.is("day " + day + ": bestTown(3)", x.bestTown(3), 0);
+            DUE.is("day " + day + ": ifPassed(2, 1)", x.ifPassed(2, 1), want[day][3]);
+            x.pass(1);
         }
     }
 
