@@ -16,6 +16,8 @@ public final class DaysEdgesTest {
         upTo30DaysAhead();
         upTo30DaysAheadWithACarrier();
         upTo30DaysAheadWhileADayPasses();
+        takenOnEachDayAhead();
+        handedOverOnEachDayAhead();
         loadDoesNotMatterForIt();
         nothingElseMattersForIt();
         byWhatIsToldNow();
@@ -30,6 +32,7 @@ public final class DaysEdgesTest {
         theLeastDay();
         toCarriersWhoAreNotFull();
         toAFullCarrierNothingIsHanded();
+        eachCarrierCanBeFull();
         noArrivalComesBehindAllDays();
         oneLessAtOnce();
         oneLessByAnArrival();
@@ -167,6 +170,37 @@ public final class DaysEdgesTest {
         z.pass(1);
         DUE.is("on 61, as seen behind 30: it stays", z.bundle(0, 2), 0);
         arrival("on 61, as seen behind 30", z, 0, -4);
+    }
+
+    private static void takenOnEachDayAhead() {
+        for (int days = 0; days <= 28; days++) {
+            MovedStalls x = Due.withTours("01");
+            x.ill(0, days);
+            int taken = days + 1;
+            int from = taken % 2;
+            DUE.is("taken on " + taken + ": post()", x.post(from, 1 - from), taken + 1);
+            arrival("taken on " + taken, x, 0, taken + 1);
+            DUE.is("none before", x.pass(taken), 0);
+            DUE.is("taken on " + taken + ": with", x.bundle(0, 2), 0);
+            arrival("taken today, on " + taken, x, 0, taken + 1);
+            DUE.is("on the day behind it", x.pass(1), 1);
+        }
+    }
+
+    private static void handedOverOnEachDayAhead() {
+        for (int days = 1; days <= 28; days++) {
+            int handed = days + 1;
+            // Both are in 0 on odd days, or on even ones.
+            MovedStalls x = Due.withTours(handed % 2 == 1 ? "30;50" : "03;05");
+            x.ill(1, days);
+            DUE.is("handed over on " + handed + ": post()", x.post(3, 5), handed + 1);
+            arrival("handed over on " + handed, x, 0, handed + 1);
+            DUE.is("none before", x.pass(days), 0);
+            DUE.is("the day before " + handed, x.bundle(0, 2), 0);
+            x.pass(1);
+            DUE.is("on " + handed, x.bundle(0, 2), 1);
+            DUE.is("on the day behind it", x.pass(1), 1);
+        }
     }
 
     /** "(LOAD does not matter for it" */
@@ -369,6 +403,29 @@ public final class DaysEdgesTest {
         x.load(2);
         x.pass(2);
         DUE.is("with LOAD 2 it is handed over", x.bundle(1, 2), 1);
+    }
+
+    private static void eachCarrierCanBeFull() {
+        for (int number = 0; number <= 3; number++) {
+            // One carrier alone is in 0 and 1 by turns; the others are in 5.
+            MovedStalls x = Due.with("5;5;5;5".substring(0, 2 * number) + "01" + ";5;5;5".substring(0, 6 - 2 * number),
+                "0>1,0>1");
+            x.load(1);
+            x.pass(2);
+            DUE.is("carrier " + number + " takes one", x.bundle(0, 2), number);
+            DUE.is("carrier " + number + " is full", x.carrier(number, 3), 1);
+            DUE.is("carrier " + number + " takes no other", x.bundle(1, 1), 0);
+        }
+        for (int number = 1; number <= 3; number++) {
+            // Carrier 0 has two for 5; of those who are in 0 on odd days, one alone comes to 5.
+            MovedStalls x = Due.with("30" + ";2".repeat(number - 1) + ";50", "3>5,3>5");
+            x.load(2);
+            x.pass(2);
+            x.load(1);
+            x.pass(1);
+            DUE.is("carrier " + number + " gets one", x.bundle(0, 2), number);
+            DUE.is("carrier " + number + " gets no other", x.bundle(1, 2), 0);
+        }
     }
 
     /** "(No arrival comes behind all days.": staying without one is worse, and better than a change without one */

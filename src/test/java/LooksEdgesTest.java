@@ -18,6 +18,7 @@ public final class LooksEdgesTest {
         promise17TheSameForBoth();
         promise18BehindToday();
         promise18UpTo30DaysAhead();
+        promise18EachDayAhead();
         promise18AlsoIfBothAreTheSame();
         promise18AtTheStallOfThatDay();
         promise19TheStallToday();
@@ -30,11 +31,14 @@ public final class LooksEdgesTest {
         promise21LooksFromThatDay();
         promise22FewestDays();
         promise22UpTo13Days();
+        promise22EachOf0To13();
         promise22NoArrivalForAnyOfThese();
         promise23NoBundles();
         promise23OnlyThoseThatHaveNotArrived();
         promise23OnThatWeekdayOnly();
         promise23MostBundles();
+        promise23EachTown();
+        promise23EachBundle();
         promise23TheLeastSum();
         promise23TheLeastNumber();
         promise23SeenUpTo30DaysAhead();
@@ -238,6 +242,17 @@ public final class LooksEdgesTest {
         DUE.is("30 days ahead, from 5 on, at the stall", z.meeting(0, 1, true), 35);
     }
 
+    private static void promise18EachDayAhead() {
+        for (int days = 1; days <= 29; days++) {
+            MovedStalls x = Due.withTours("0;0");
+            x.ill(1, days);
+            DUE.is((days + 1) + " days ahead", x.meeting(0, 1, false), days + 1);
+            DUE.is((days + 1) + " days ahead, at the stall", x.meeting(1, 0, true), days + 1);
+            x.pass(1);
+            DUE.is(days + " days ahead", x.meeting(1, 0, false), days + 1);
+        }
+    }
+
     /** "INVALID_ARGUMENT (also if both are the same)" */
     private static void promise18AlsoIfBothAreTheSame() {
         MovedStalls x = Due.withTours("0;0;0;0");
@@ -422,6 +437,16 @@ public final class LooksEdgesTest {
         DUE.is("day 3: posted on 14", y.bestDay(1, 0), 11);
     }
 
+    private static void promise22EachOf0To13() {
+        for (int day = 0; day <= 13; day++) {
+            MovedStalls x = Due.withTours("01");
+            x.ill(0, day);
+            // On the day that follows the carrier is there, and so takes it at once.
+            int from = (day + 1) % 2;
+            DUE.is("about again on " + (day + 1), x.bestDay(from, 1 - from), day);
+        }
+    }
+
     /** "NOT_FOUND if it has no arrival for any of these" */
     private static void promise22NoArrivalForAnyOfThese() {
         // Both are at the stall in 0 on day 60: seen from 31 days on, and so from day 18 in 13 days.
@@ -479,6 +504,28 @@ public final class LooksEdgesTest {
         String seven = "0>1,2>3,0>1,2>3,0>1,2>3,4>5";
         DUE.is("three to three", withoutStall(tours, seven).bestTown(1), 4);
         DUE.is("the eighth one tells", withoutStall(tours, seven + ",2>3").bestTown(1), 5);
+    }
+
+    private static void promise23EachTown() {
+        for (int town = 0; town <= 5; town++) {
+            int from = (town + 1) % 6;
+            int to = (town + 2) % 6;
+            // On odd days both are in the town; on even days one is where it lies, the other where it goes.
+            String tours = from + "" + town + ";" + to + town;
+            for (int weekday = 0; weekday <= 6; weekday++) {
+                MovedStalls x = withoutStall(tours, from + ">" + to);
+                DUE.is("both are in " + town + ", weekday " + weekday, x.bestTown(weekday), town);
+            }
+        }
+    }
+
+    private static void promise23EachBundle() {
+        // Carriers 0 and 1 are in the town 4 on weekday 1, carriers 2 and 3 in the town 5; nobody brings 4>5.
+        String tours = "0444444;1444444;2555555;3555555";
+        for (int number = 0; number <= 7; number++) {
+            String letters = "4>5,".repeat(number) + "2>3" + ",4>5".repeat(7 - number);
+            DUE.is("only bundle " + number + " can arrive", withoutStall(tours, letters).bestTown(1), 5);
+        }
     }
 
     /** "of several that with the least sum of these arrivals" */

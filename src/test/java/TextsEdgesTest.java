@@ -22,6 +22,8 @@ public final class TextsEdgesTest {
         aPadOfAnyLength();
         theFaultLeavesThePad();
         toursUpTo4Carriers();
+        toursUpTo4CarriersOfAllLengths();
+        theLongestPadOf4Tours();
         lettersUpTo8Bundles();
         toursAndLettersEmptyThePad();
         lettersOneAfterTheOther();
@@ -300,6 +302,34 @@ public final class TextsEdgesTest {
         }
         DUE.refused("30 tours", () -> typed("0;".repeat(29) + "1"), MovedStalls::tours, -3);
         DUE.refused("one tour more", () -> full("5"), MovedStalls::tours, -3);
+    }
+
+    private static void toursUpTo4CarriersOfAllLengths() {
+        String[] tours = {"0", "01", "012", "0123", "01234", "012345", "0123450", "0*1", "0123450*1"};
+        for (String one : tours) {
+            for (int place = 0; place < 5; place++) {
+                String four = "5;".repeat(Math.min(place, 3)) + one + ";5".repeat(3 - Math.min(place, 3));
+                String five = "5;".repeat(place) + one + ";5".repeat(4 - place);
+                DUE.is("four: " + four, typed(four).tours(), 4);
+                DUE.is("five: " + five, typed(five).tours(), -3);
+            }
+            String five = (one + ";").repeat(4) + one;
+            DUE.is("five: " + five, typed(five).tours(), five.length() <= LENGTH ? -3 : -2);
+        }
+    }
+
+    private static void theLongestPadOf4Tours() {
+        String[] towns = {"0123450", "5432105", "2030405", "1454321"};
+        MovedStalls x = typed(towns[0] + "*6;" + towns[1] + "*7;" + towns[2] + "*8;" + towns[3] + "*9");
+        DUE.is("39 characters", x.count(15), 39);
+        DUE.is("four tours of 7", x.tours(), 4);
+        for (int c = 0; c <= 3; c++) {
+            DUE.is("the length of tour " + c, x.carrier(c, 0), 7);
+            DUE.is("the roughness of tour " + c, x.carrier(c, 1), 6 + c);
+            for (int day = 0; day <= 6; day++) {
+                DUE.is("tour " + c + ", day " + day, x.where(c, day), towns[c].charAt(day) - '0');
+            }
+        }
     }
 
     /** 4 carriers, 8 bundles, and this on the pad. */
