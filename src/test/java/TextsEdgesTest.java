@@ -23,6 +23,7 @@ public final class TextsEdgesTest {
         theFaultLeavesThePad();
         toursUpTo4Carriers();
         toursUpTo4CarriersOfAllLengths();
+        fiveToursOfAllLengths();
         theLongestPadOf4Tours();
         lettersUpTo8Bundles();
         toursAndLettersEmptyThePad();
@@ -313,8 +314,16 @@ public final class TextsEdgesTest {
                 DUE.is("four: " + four, typed(four).tours(), 4);
                 DUE.is("five: " + five, typed(five).tours(), -3);
             }
-            String five = (one + ";").repeat(4) + one;
-            DUE.is("five: " + five, typed(five).tours(), five.length() <= LENGTH ? -3 : -2);
+        }
+    }
+
+    /** Four tours of 1 to 9 characters in each order, and one more: each ";" stands between two carriers. */
+    private static void fiveToursOfAllLengths() {
+        String[] tours = {"0", "01", "0*1", "012*1", "01234", "012345", "0123450", "012345*1", "0123450*1"};
+        for (int order = 0; order < 9 * 9 * 9 * 9; order++) {
+            String five = tours[order % 9] + ";" + tours[order / 9 % 9] + ";" + tours[order / 81 % 9] + ";"
+                + tours[order / 729] + ";5";
+            DUE.is("five: " + five, typed(five).tours(), -3);
         }
     }
 
